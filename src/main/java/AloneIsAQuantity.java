@@ -1,7 +1,8 @@
 /**
  * A moor of six by six cells, at most six people on it, and a sum that is shared among them by how
  * far they are from each other. The public methods refuse what the document refuses and hand the
- * rest on: Moor holds what is, Mind answers what would be, Text reads a moor told in letters.
+ * rest on: Moor holds what is, DaysToCome, OtherMoors and Lending answer what would be, and Text
+ * reads a moor told in letters.
  */
 public final class AloneIsAQuantity {
     private static final int NOBODY = -1;
@@ -10,6 +11,9 @@ public final class AloneIsAQuantity {
     private static final int BELOW = -4;
     private static final int ABOVE = -6;
     private static final int NONE = -9;
+
+    // The greatest int, and so all of its bits but the sign's.
+    private static final int GREATEST = 0x7fffffff;
 
     // Some answers may be below 0 themselves: their refusals are told above every answer.
     private static final int FAR_REFUSAL = 1000000000;
@@ -66,7 +70,9 @@ public final class AloneIsAQuantity {
 
     private final Moor moor = new Moor();
     private final Moor thought = new Moor();
-    private final Mind mind = new Mind(moor, thought);
+    private final DaysToCome daysToCome = new DaysToCome(moor, thought);
+    private final OtherMoors otherMoors = new OtherMoors(moor, thought);
+    private final Lending lending = new Lending(moor);
     private final Text text = new Text();
     private final Moor imageMoor = new Moor();
     private boolean imageTaken = false;
@@ -74,13 +80,11 @@ public final class AloneIsAQuantity {
     private int toldCount = 0;
     private final Numbers refusals = new Numbers(-ABOVE + 1);
 
-    /** Nobody, SUM 360. */
     public AloneIsAQuantity() {
     }
 
     // ---- what is told and asked of the moor as it is
 
-    /** A letter comes: how many there are. */
     public int letter(int c) {
         if (c < 0) {
             return refuse(BELOW);
@@ -91,7 +95,6 @@ public final class AloneIsAQuantity {
         return text.append(c);
     }
 
-    /** The letters become a MOOR: how many STATEMENTS, or the FAULT. */
     public int moor() {
         // Said to a copy first: with a FAULT in a later statement nothing of the text may come.
         thought.takeFrom(moor);
@@ -103,7 +106,6 @@ public final class AloneIsAQuantity {
         return answer;
     }
 
-    /** KIND, FIGURE, CELL, NEED, KEPT, WEIGHT or SHARE of one. */
     public int person(int person, int what) {
         if (!moor.isThere(person)) {
             return refuse(NOBODY);
@@ -128,7 +130,6 @@ public final class AloneIsAQuantity {
         }
     }
 
-    /** HAS. */
     public int owns(int person) {
         if (!moor.isThere(person)) {
             return refuseFar(NOBODY);
@@ -136,7 +137,6 @@ public final class AloneIsAQuantity {
         return moor.hasOf(person);
     }
 
-    /** What the one has LENT to the other. */
     public int loan(int one, int other) {
         if (!moor.areTwo(one, other)) {
             return refuse(NOBODY);
@@ -144,7 +144,6 @@ public final class AloneIsAQuantity {
         return moor.lentBy(one, other);
     }
 
-    /** He is in a CELL: where he was. */
     public int go(int person, int cell) {
         if (!moor.isThere(person) || !isCell(cell)) {
             return refuse(NOBODY);
@@ -154,7 +153,6 @@ public final class AloneIsAQuantity {
         return before;
     }
 
-    /** So much is LENT now: what it was. */
     public int lend(int one, int other, int v) {
         if (!moor.areTwo(one, other)) {
             return refuse(NOBODY);
@@ -170,7 +168,6 @@ public final class AloneIsAQuantity {
         return before;
     }
 
-    /** KEPT becomes v: what it was. */
     public int keep(int person, int v) {
         if (!moor.isThere(person)) {
             return refuse(NOBODY);
@@ -186,7 +183,6 @@ public final class AloneIsAQuantity {
         return before;
     }
 
-    /** NEED becomes v: what it was. */
     public int need(int person, int v) {
         if (!moor.isThere(person)) {
             return refuse(NOBODY);
@@ -202,7 +198,6 @@ public final class AloneIsAQuantity {
         return before;
     }
 
-    /** SUM becomes v: what it was. */
     public int sum(int v) {
         if (v < 0) {
             return refuse(BELOW);
@@ -215,7 +210,6 @@ public final class AloneIsAQuantity {
         return before;
     }
 
-    /** So many DAYS go by: how many were SHORT on the last one. */
     public int days(int n) {
         if (n < 1) {
             return refuse(BELOW);
@@ -228,7 +222,6 @@ public final class AloneIsAQuantity {
 
     // ---- what is thought of days to come
 
-    /** In mind, n DAYS on: KEPT of one, or on how many of these he was SHORT. */
     public int behind(int person, int n, int what) {
         if (!moor.isThere(person)) {
             return refuse(NOBODY);
@@ -242,61 +235,55 @@ public final class AloneIsAQuantity {
         if (what < 0 || what > 1) {
             return refuse(OTHER);
         }
-        return what == 0 ? mind.keptAfter(person, n) : mind.shortDays(person, n);
+        return what == 0 ? daysToCome.keptAfter(person, n) : daysToCome.shortDays(person, n);
     }
 
-    /** FIRST SHORT: the DAY from now, or who. */
     public int firstShort(int what) {
         if (what < 0 || what > 1) {
             return refuse(OTHER);
         }
-        return what == 0 ? mind.firstShortDay() : mind.firstShortOne();
+        return what == 0 ? daysToCome.firstShortDay() : daysToCome.firstShortOne();
     }
 
-    /** On how many DAYS from now one is not SHORT, till he first is. */
     public int lasts(int person) {
         if (!moor.isThere(person)) {
             return refuse(NOBODY);
         }
-        return mind.daysTillShort(person);
+        return daysToCome.daysTillShort(person);
     }
 
     // ---- what is thought of other cells, and of others who come or leave
 
-    /** BEST CELL of one, that SHARE, or his KIND CELL. */
     public int bestCell(int person, int what) {
         if (!moor.isThere(person)) {
             return refuse(NOBODY);
         }
         switch (what) {
             case 0:
-                return mind.richestCell(person);
+                return otherMoors.richestCell(person);
             case 1:
-                return mind.shareIn(person, mind.richestCell(person));
+                return otherMoors.shareIn(person, otherMoors.richestCell(person));
             case 2:
-                return mind.kindCell(person);
+                return otherMoors.kindCell(person);
             default:
                 return refuse(OTHER);
         }
     }
 
-    /** By how much the other one's SHARE were more without the one. */
     public int takes(int one, int other) {
         if (!moor.areTwo(one, other)) {
             return refuseFar(NOBODY);
         }
-        return mind.takenBy(one, other);
+        return otherMoors.takenBy(one, other);
     }
 
-    /** The one who takes most from a person. */
     public int worst(int person) {
         if (!moor.isThere(person)) {
             return refuse(NOBODY);
         }
-        return mind.worstFor(person);
+        return otherMoors.worstFor(person);
     }
 
-    /** A PERSON more in a CELL: his SHARE, or what the others lose. */
     public int newcomer(int cell, int what) {
         if (!isCell(cell)) {
             return refuseFar(NOBODY);
@@ -307,27 +294,24 @@ public final class AloneIsAQuantity {
         if (moor.people() >= MOST_PEOPLE) {
             return NONE;
         }
-        int others = mind.sharesBesideOneMoreIn(cell);
+        int others = otherMoors.sharesBesideOneMoreIn(cell);
         return what == 0 ? moor.total() - others : moor.allShares() - others;
     }
 
-    /** The one by whose leaving most others HAVE more than now, or how many these are. */
     public int leaves(int what) {
         if (what < 0 || what > 1) {
             return refuse(OTHER);
         }
-        int leaver = mind.bestLeaver();
-        return what == 0 || leaver == NONE ? leaver : mind.gainersWithout(leaver);
+        int leaver = otherMoors.bestLeaver();
+        return what == 0 || leaver == NONE ? leaver : otherMoors.gainersWithout(leaver);
     }
 
     // ---- who has enough, and what is lent
 
-    /** PEOPLE (bits) who HAVE their NEED or more now. */
     public int enough() {
         return moor.contentBits();
     }
 
-    /** The most that can be given to who lacks, or whether all have enough then. */
     public int help(int d, int what) {
         if (d < 0) {
             return refuse(BELOW);
@@ -338,14 +322,13 @@ public final class AloneIsAQuantity {
         if (what < 0 || what > 1) {
             return refuse(OTHER);
         }
-        int given = mind.mostGiven(d);
+        int given = lending.mostGiven(d);
         if (what == 0) {
             return given;
         }
-        return given == mind.lackingOfAll() ? 1 : 0;
+        return given == lending.lackingOfAll() ? 1 : 0;
     }
 
-    /** What one has LENT less what he has borrowed. */
     public int net(int person) {
         if (!moor.isThere(person)) {
             return refuseFar(NOBODY);
@@ -353,30 +336,26 @@ public final class AloneIsAQuantity {
         return moor.netOf(person);
     }
 
-    /** How many LOANS there are, or the fewest that are enough. */
     public int loans(int what) {
         if (what < 0 || what > 1) {
             return refuse(OTHER);
         }
-        return what == 0 ? moor.loansAboveNothing() : mind.fewestLoans();
+        return what == 0 ? moor.loansAboveNothing() : lending.fewestLoans();
     }
 
     // ---- a surveyor, a quarrel, two who choose
 
-    /** What a surveyor in a CELL finds. */
     public int survey(int cell) {
         if (!isCell(cell)) {
             return refuse(NOBODY);
         }
-        return mind.sharesBesideOneMoreIn(cell);
+        return otherMoors.sharesBesideOneMoreIn(cell);
     }
 
-    /** The CELL in which a surveyor finds most. */
     public int bestSurvey() {
-        return mind.bestSurveyCell();
+        return otherMoors.bestSurveyCell();
     }
 
-    /** The CELL to which the first must go, or what his SHARE is more then. */
     public int quarrel(int one, int other, int k, int what) {
         if (!moor.areTwo(one, other)) {
             return refuseFar(NOBODY);
@@ -390,41 +369,37 @@ public final class AloneIsAQuantity {
         if (what < 0 || what > 1) {
             return refuseFar(OTHER);
         }
-        int cell = mind.quarrelCell(one, other, k);
+        int cell = otherMoors.quarrelCell(one, other, k);
         if (what == 0 || cell == NONE) {
             return cell;
         }
-        return mind.shareIn(one, cell) - moor.shareOf(one);
+        return otherMoors.shareIn(one, cell) - moor.shareOf(one);
     }
 
-    /** The first pair of choices by which neither has more by another choice alone. */
     public int two(int a, int b) {
         if (!moor.areTwo(a, b)) {
             return refuse(NOBODY);
         }
-        return mind.firstSteadyPair(a, b);
+        return otherMoors.firstSteadyPair(a, b);
     }
 
-    /** The least STEPS of two at all, the most, or the two that are nearest. */
     public int crowd(int what) {
         switch (what) {
             case 0:
-                return mind.leastSteps();
+                return moor.leastSteps();
             case 1:
-                return mind.mostSteps();
+                return moor.mostSteps();
             case 2:
-                return mind.nearestPair();
+                return moor.nearestPair();
             default:
                 return refuse(OTHER);
         }
     }
 
-    /** The least SUM with which all HAVE their NEED. */
     public int raise() {
-        return mind.leastTotalForAll();
+        return otherMoors.leastTotalForAll();
     }
 
-    /** KEPT of the other behind n DAYS, if he is with the first one on each seventh. */
     public int easter(int one, int other, int n) {
         if (!moor.areTwo(one, other)) {
             return refuse(NOBODY);
@@ -435,12 +410,11 @@ public final class AloneIsAQuantity {
         if (n > MOST_SMALL) {
             return refuse(ABOVE);
         }
-        return mind.keptAfterVisits(one, other, n);
+        return daysToCome.keptAfterVisits(one, other, n);
     }
 
     // ---- the row that is told
 
-    /** KINDS or FIGURES (bits) of one by which the ROW tells the SHARES. */
     public int whatIs(int person, int what) {
         if (!moor.isThere(person)) {
             return refuse(NOBODY);
@@ -451,10 +425,9 @@ public final class AloneIsAQuantity {
         if (toldCount != moor.people()) {
             return refuse(STATE);
         }
-        return what == 0 ? mind.kindsTold(person, told) : mind.figuresTold(person, told);
+        return what == 0 ? otherMoors.kindsTold(person, told) : otherMoors.figuresTold(person, told);
     }
 
-    /** A number more of the ROW: how many. */
     public int row(int v) {
         if (v < 0) {
             return refuse(BELOW);
@@ -467,17 +440,15 @@ public final class AloneIsAQuantity {
         return toldCount;
     }
 
-    /** The first number of the ROW that is not KEPT of one behind so many DAYS. */
     public int judge(int person) {
         if (!moor.isThere(person)) {
             return refuse(NOBODY);
         }
-        int answer = mind.firstMistold(person, told, toldCount);
+        int answer = daysToCome.firstMistold(person, told, toldCount);
         toldCount = 0;
         return answer;
     }
 
-    /** The ROW has none then: how many it had. */
     public int clear() {
         int before = toldCount;
         toldCount = 0;
@@ -486,7 +457,6 @@ public final class AloneIsAQuantity {
 
     // ---- moors by lot, the image, the counts
 
-    /** In n moors by lot: the SHARES of the first one, or how many HAVE their NEED. */
     public int lots(int n, int z, int what) {
         if (n < 1) {
             return refuse(BELOW);
@@ -500,17 +470,15 @@ public final class AloneIsAQuantity {
         if (moor.people() < 1) {
             return refuse(STATE);
         }
-        return what == 0 ? mind.firstSharesByLot(n, z) : mind.contentByLot(n, z);
+        return what == 0 ? otherMoors.firstSharesByLot(n, z) : otherMoors.contentByLot(n, z);
     }
 
-    /** THE IMAGE is taken: DAY. */
     public int image() {
         imageMoor.takeFrom(moor);
         imageTaken = true;
         return moor.day();
     }
 
-    /** ON from THE IMAGE: DAY. */
     public int on() {
         if (!imageTaken) {
             return refuse(STATE);
@@ -519,7 +487,6 @@ public final class AloneIsAQuantity {
         return moor.day();
     }
 
-    /** How many, how much, or how many REFUSALS of a number there were. */
     public int count(int what) {
         switch (what) {
             case 0:
@@ -585,7 +552,7 @@ public final class AloneIsAQuantity {
         }
     }
 
-    /** People in cells, with the weights and shares that follow; each change brings these up to date. */
+    /** People in cells; each change brings up to date what follows from it: nets, weights, shares. */
     private static final class Moor {
         private final Numbers kinds = new Numbers(PEOPLE_ROOM);
         private final Numbers figures = new Numbers(PEOPLE_ROOM);
@@ -593,6 +560,7 @@ public final class AloneIsAQuantity {
         private final Numbers needs = new Numbers(PEOPLE_ROOM);
         private final Numbers kepts = new Numbers(PEOPLE_ROOM);
         private final Numbers lents = new Numbers(PEOPLE_ROOM * PEOPLE_ROOM);
+        private final Numbers nets = new Numbers(PEOPLE_ROOM);
         private final Numbers weights = new Numbers(PEOPLE_ROOM);
         private final Numbers shares = new Numbers(PEOPLE_ROOM);
         private int people = 0;
@@ -607,6 +575,7 @@ public final class AloneIsAQuantity {
             needs.takeFrom(other.needs);
             kepts.takeFrom(other.kepts);
             lents.takeFrom(other.lents);
+            nets.takeFrom(other.nets);
             weights.takeFrom(other.weights);
             shares.takeFrom(other.shares);
             people = other.people;
@@ -672,15 +641,11 @@ public final class AloneIsAQuantity {
         }
 
         int netOf(int one) {
-            int net = 0;
-            for (int other = 0; other < people; other++) {
-                net += lents.at(one * PEOPLE_ROOM + other) - lents.at(other * PEOPLE_ROOM + one);
-            }
-            return net;
+            return nets.at(one);
         }
 
         int hasOf(int one) {
-            return shares.at(one) - netOf(one);
+            return shares.at(one) - nets.at(one);
         }
 
         int allShares() {
@@ -729,6 +694,35 @@ public final class AloneIsAQuantity {
             return loans;
         }
 
+        int mostSteps() {
+            int most = NONE;
+            for (int one = 0; one < people; one++) {
+                for (int other = one + 1; other < people; other++) {
+                    most = Math.max(most, stepsOf(one, other));
+                }
+            }
+            return most;
+        }
+
+        int nearestPair() {
+            int nearest = NONE;
+            int least = MOST_STEPS + 1;
+            for (int one = 0; one < people; one++) {
+                for (int other = one + 1; other < people; other++) {
+                    if (stepsOf(one, other) < least) {
+                        least = stepsOf(one, other);
+                        nearest = 10 * one + other;
+                    }
+                }
+            }
+            return nearest;
+        }
+
+        int leastSteps() {
+            int pair = nearestPair();
+            return pair == NONE ? NONE : stepsOf(pair / 10, pair % 10);
+        }
+
         void setTotal(int v) {
             total = v;
             shareOut();
@@ -743,6 +737,11 @@ public final class AloneIsAQuantity {
         }
 
         void setLent(int one, int other, int v) {
+            putLent(one, other, v);
+            netLoans();
+        }
+
+        private void putLent(int one, int other, int v) {
             lents.put(one * PEOPLE_ROOM + other, v);
         }
 
@@ -772,10 +771,11 @@ public final class AloneIsAQuantity {
             needs.put(people, need);
             kepts.put(people, 0);
             for (int other = 0; other < PEOPLE_ROOM; other++) {
-                setLent(people, other, 0);
-                setLent(other, people, 0);
+                putLent(people, other, 0);
+                putLent(other, people, 0);
             }
             people++;
+            netLoans();
             weigh();
         }
 
@@ -791,15 +791,16 @@ public final class AloneIsAQuantity {
                 needs.put(one, needs.at(one + 1));
                 kepts.put(one, kepts.at(one + 1));
                 for (int other = 0; other < people; other++) {
-                    setLent(one, other, lentBy(one + 1, other));
+                    putLent(one, other, lentBy(one + 1, other));
                 }
             }
             for (int other = gone; other + 1 < people; other++) {
                 for (int one = 0; one < people; one++) {
-                    setLent(one, other, lentBy(one, other + 1));
+                    putLent(one, other, lentBy(one, other + 1));
                 }
             }
             people--;
+            netLoans();
             weigh();
         }
 
@@ -818,6 +819,16 @@ public final class AloneIsAQuantity {
                 }
             }
             return shortBits;
+        }
+
+        private void netLoans() {
+            for (int one = 0; one < people; one++) {
+                int net = 0;
+                for (int other = 0; other < people; other++) {
+                    net += lentBy(one, other) - lentBy(other, one);
+                }
+                nets.put(one, net);
+            }
         }
 
         private void weigh() {
@@ -873,18 +884,12 @@ public final class AloneIsAQuantity {
         }
     }
 
-    /** What would be: each thought is thought on a copy, so that the moor stays as it is. */
-    private static final class Mind {
+    /** What will be on days to come, each thought on a copy, so that the moor stays as it is. */
+    private static final class DaysToCome {
         private final Moor moor;
         private final Moor thought;
-        private final Draw draw = new Draw();
-        private final Numbers spares = new Numbers(MOST_PEOPLE);
-        private final Numbers lacks = new Numbers(MOST_PEOPLE);
-        private final Numbers groups = new Numbers(SUBSETS);
-        private final Numbers firstShares = new Numbers(CHOICES * CHOICES);
-        private final Numbers secondShares = new Numbers(CHOICES * CHOICES);
 
-        Mind(Moor moor, Moor thought) {
+        DaysToCome(Moor moor, Moor thought) {
             this.moor = moor;
             this.thought = thought;
         }
@@ -945,6 +950,31 @@ public final class AloneIsAQuantity {
                 thought.passDays(1);
             }
             return thought.keptOf(guest);
+        }
+
+        int firstMistold(int one, Numbers told, int toldCount) {
+            thought.takeFrom(moor);
+            for (int i = 0; i < toldCount; i++) {
+                if (Math.min(thought.keptOf(one), MOST_SMALL) != told.at(i)) {
+                    return i;
+                }
+                thought.passDays(1);
+            }
+            return NONE;
+        }
+    }
+
+    /** What shares would be if people were elsewhere, more, fewer, or others, each thought on a copy. */
+    private static final class OtherMoors {
+        private final Moor moor;
+        private final Moor thought;
+        private final Draw draw = new Draw();
+        private final Numbers firstShares = new Numbers(CHOICES * CHOICES);
+        private final Numbers secondShares = new Numbers(CHOICES * CHOICES);
+
+        OtherMoors(Moor moor, Moor thought) {
+            this.moor = moor;
+            this.thought = thought;
         }
 
         int shareIn(int one, int cell) {
@@ -1061,75 +1091,6 @@ public final class AloneIsAQuantity {
             return best;
         }
 
-        int lackingOfAll() {
-            int lacking = 0;
-            for (int one = 0; one < moor.people(); one++) {
-                lacking += Math.max(0, moor.needOf(one) - moor.hasOf(one));
-            }
-            return lacking;
-        }
-
-        /**
-         * The greatest flow is the least cut: for some of the people, what these have to spare and what
-         * those lack who are near another who has something to spare is together never less than what
-         * can be given, and for the best choice of them it is just that.
-         */
-        int mostGiven(int d) {
-            for (int one = 0; one < moor.people(); one++) {
-                int more = moor.hasOf(one) - moor.needOf(one);
-                spares.put(one, Math.max(0, more));
-                lacks.put(one, Math.max(0, -more));
-            }
-            int most = Integer.MAX_VALUE;
-            for (int some = 0; some < 1 << moor.people(); some++) {
-                most = Math.min(most, cutBy(some, d));
-            }
-            return most;
-        }
-
-        private int cutBy(int some, int d) {
-            int cut = 0;
-            for (int one = 0; one < moor.people(); one++) {
-                if (((some >> one) & 1) != 0) {
-                    cut += spares.at(one);
-                }
-                if (lacks.at(one) > 0 && isNearGiverBeside(some, one, d)) {
-                    cut += lacks.at(one);
-                }
-            }
-            return cut;
-        }
-
-        private boolean isNearGiverBeside(int some, int poor, int d) {
-            for (int one = 0; one < moor.people(); one++) {
-                if (((some >> one) & 1) == 0 && spares.at(one) > 0 && moor.stepsOf(one, poor) <= d) {
-                    return true;
-                }
-            }
-            return false;
-        }
-
-        /**
-         * People whose NETS together are 0 can settle among themselves with a loan less than they are:
-         * the fewest loans are the people less the most groups of that sort into which they fall.
-         */
-        int fewestLoans() {
-            int all = (1 << moor.people()) - 1;
-            groups.put(0, 0);
-            for (int some = 1; some <= all; some++) {
-                int nets = 0;
-                int most = 0;
-                for (int one = 0; one < moor.people(); one++) {
-                    if (((some >> one) & 1) != 0) {
-                        nets += moor.netOf(one);
-                        most = Math.max(most, groups.at(some & ~(1 << one)));
-                    }
-                }
-                groups.put(some, nets == 0 ? most + 1 : most);
-            }
-            return moor.people() - groups.at(all);
-        }
-
         int quarrelCell(int one, int other, int k) {
             int best = NONE;
             int fewest = 0;
@@ -1193,35 +1154,6 @@ public final class AloneIsAQuantity {
             }
         }
 
-        int leastSteps() {
-            int pair = nearestPair();
-            return pair == NONE ? NONE : moor.stepsOf(pair / 10, pair % 10);
-        }
-
-        int mostSteps() {
-            int most = NONE;
-            for (int one = 0; one < moor.people(); one++) {
-                for (int other = one + 1; other < moor.people(); other++) {
-                    most = Math.max(most, moor.stepsOf(one, other));
-                }
-            }
-            return most;
-        }
-
-        int nearestPair() {
-            int nearest = NONE;
-            int least = MOST_STEPS + 1;
-            for (int one = 0; one < moor.people(); one++) {
-                for (int other = one + 1; other < moor.people(); other++) {
-                    if (moor.stepsOf(one, other) < least) {
-                        least = moor.stepsOf(one, other);
-                        nearest = 10 * one + other;
-                    }
-                }
-            }
-            return nearest;
-        }
-
         int leastTotalForAll() {
             thought.takeFrom(moor);
             for (int total = 0; total <= MOST_SUM; total++) {
@@ -1266,17 +1198,6 @@ public final class AloneIsAQuantity {
             return true;
         }
 
-        int firstMistold(int one, Numbers told, int toldCount) {
-            thought.takeFrom(moor);
-            for (int i = 0; i < toldCount; i++) {
-                if (Math.min(thought.keptOf(one), MOST_SMALL) != told.at(i)) {
-                    return i;
-                }
-                thought.passDays(1);
-            }
-            return NONE;
-        }
-
         int firstSharesByLot(int n, int seed) {
             thought.takeFrom(moor);
             draw.begin(seed);
@@ -1306,6 +1227,87 @@ public final class AloneIsAQuantity {
         }
     }
 
+    /** Who could give to whom, and how few loans would do. */
+    private static final class Lending {
+        private final Moor moor;
+        private final Numbers spares = new Numbers(MOST_PEOPLE);
+        private final Numbers lacks = new Numbers(MOST_PEOPLE);
+        private final Numbers groups = new Numbers(SUBSETS);
+
+        Lending(Moor moor) {
+            this.moor = moor;
+        }
+
+        int lackingOfAll() {
+            int lacking = 0;
+            for (int one = 0; one < moor.people(); one++) {
+                lacking += Math.max(0, moor.needOf(one) - moor.hasOf(one));
+            }
+            return lacking;
+        }
+
+        /**
+         * The greatest flow is the least cut: for some of the people, what these have to spare and what
+         * those lack who are near another who has something to spare is together never less than what
+         * can be given, and for the best choice of them it is just that.
+         */
+        int mostGiven(int d) {
+            for (int one = 0; one < moor.people(); one++) {
+                int more = moor.hasOf(one) - moor.needOf(one);
+                spares.put(one, Math.max(0, more));
+                lacks.put(one, Math.max(0, -more));
+            }
+            int most = GREATEST;
+            for (int some = 0; some < 1 << moor.people(); some++) {
+                most = Math.min(most, cutBy(some, d));
+            }
+            return most;
+        }
+
+        private int cutBy(int some, int d) {
+            int cut = 0;
+            for (int one = 0; one < moor.people(); one++) {
+                if (((some >> one) & 1) != 0) {
+                    cut += spares.at(one);
+                }
+                if (lacks.at(one) > 0 && isNearGiverBeside(some, one, d)) {
+                    cut += lacks.at(one);
+                }
+            }
+            return cut;
+        }
+
+        private boolean isNearGiverBeside(int some, int poor, int d) {
+            for (int one = 0; one < moor.people(); one++) {
+                if (((some >> one) & 1) == 0 && spares.at(one) > 0 && moor.stepsOf(one, poor) <= d) {
+                    return true;
+                }
+            }
+            return false;
+        }
+
+        /**
+         * People whose NETS together are 0 can settle among themselves with a loan less than they are:
+         * the fewest loans are the people less the most groups of that sort into which they fall.
+         */
+        int fewestLoans() {
+            int all = (1 << moor.people()) - 1;
+            groups.put(0, 0);
+            for (int some = 1; some <= all; some++) {
+                int nets = 0;
+                int most = 0;
+                for (int one = 0; one < moor.people(); one++) {
+                    if (((some >> one) & 1) != 0) {
+                        nets += moor.netOf(one);
+                        most = Math.max(most, groups.at(some & ~(1 << one)));
+                    }
+                }
+                groups.put(some, nets == 0 ? most + 1 : most);
+            }
+            return moor.people() - groups.at(all);
+        }
+    }
+
     /** Draws from a seed, each from the number that the one before has left. */
     private static final class Draw {
         private int z = 0;
@@ -1316,7 +1318,7 @@ public final class AloneIsAQuantity {
 
         int below(int m) {
             z = z * 1664525 + 1013904223;
-            return m > 0 ? ((z & Integer.MAX_VALUE) / 256) % m : 0;
+            return m > 0 ? ((z & GREATEST) / 256) % m : 0;
         }
     }
 
@@ -1399,7 +1401,7 @@ public final class AloneIsAQuantity {
             }
         }
 
-        private boolean fits(int letter, char asked) {
+        private boolean fits(int letter, int asked) {
             switch (asked) {
                 case DIGIT:
                     return letter >= '0' && letter <= '9';
