@@ -387,6 +387,7 @@ public final class PromisesTest {
         y.sum(0);
         y.keep(0, 4900);
         due(99, y.firstShort(0));
+        due(0, y.firstShort(1));
         due(98, y.lasts(0));
         due(0, y.behind(0, 99, 0));
         due(1, y.behind(0, 99, 1));
@@ -589,6 +590,12 @@ public final class PromisesTest {
         due(-1, x.two(0, 2));
         due(-1, x.two(-1, 1));
         due(0, x.person(0, 2));
+        due(12, moorOf("pp03000;ps53500;").two(0, 1));
+        due(43, moorOf("pp00500;ps50000;").two(0, 1));
+        due(22, moorOf("pp00100;ps50300;").two(0, 1));
+        due(33, moorOf("pp00400;ps50200;").two(0, 1));
+        due(11, moorOf("pp00600;ps51800;").two(0, 1));
+        due(34, moorOf("pp02400;ps51200;").two(0, 1));
         due(0, moorOf("pp00000;pp03500;").two(0, 1));
         due(0, moorOf("pp01400;ps51400;").two(0, 1));
         // The POET wants 3 STEPS between them, the COUPLE anything else, and can have it.
@@ -622,6 +629,9 @@ public final class PromisesTest {
         due(0, new AloneIsAQuantity().raise());
         due(-9, moorOf("pp00000;pn93599;").raise());
         due(990, moorOf("pp00000;pn93590;").raise());
+        // A ninth less 12 LENT is 99 with 999, and not with less.
+        due(999, moorOf("pp00000;pn93399;l1012;").raise());
+        due(-9, moorOf("pp00000;pn93399;l1013;").raise());
         due(99, moorOf("po50099;").raise());
         x.lend(1, 0, 10);
         due(30, x.raise());
