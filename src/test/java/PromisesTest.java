@@ -1,72 +1,85 @@
-/** Each promise by its number: answers worked out by hand from the document. */
+/** Each promise by its number: answers worked out by hand, the last that is answered and the first that is refused. */
 public final class PromisesTest {
-    private static final int FAR = 1000000000;
+    private static final int FAR = Asked.FAR;
+    private static final int MIN = Asked.MIN;
+    private static final int MAX = Asked.MAX;
     /** A PERSON in CELL 0 and a SHEPHERD (5) in CELL 5: WEIGHTS 5 and 10, SHARES 120 and 240, NEED 10 each. */
     private static final String PAIR = "pp00010;ps50510;";
     /** One of each KIND: WEIGHTS 21 30 38 9 48 11. */
     private static final String SIX = "pp00000;ps30300;pw00600;pc01200;po43500;pn13000;";
+    /** WEIGHTS 10 19 1. */
     private static final String THREE = "pp00000;ps90000;pn93500;";
-
-    private static int promise;
-    private static int asked = 0;
-    private static int wrong = 0;
+    /** PERSONS in one CELL. */
+    private static final String ALIKE = "pp00000;pp00000;pp00000;";
 
     private PromisesTest() {
     }
 
+    public static void main(String[] args) {
+        test("1: a new object", PromisesTest::promise1);
+        test("2: letter", PromisesTest::promise2);
+        test("3: moor", PromisesTest::promise3);
+        test("4: person", PromisesTest::promise4);
+        test("5: owns", PromisesTest::promise5);
+        test("6: loan", PromisesTest::promise6);
+        test("7: go", PromisesTest::promise7);
+        test("8: lend", PromisesTest::promise8);
+        test("9: keep", PromisesTest::promise9);
+        test("10: need", PromisesTest::promise10);
+        test("11: sum", PromisesTest::promise11);
+        test("12: days", PromisesTest::promise12);
+        test("13: behind", PromisesTest::promise13);
+        test("14: firstShort", PromisesTest::promise14);
+        test("15: lasts", PromisesTest::promise15);
+        test("16: bestCell", PromisesTest::promise16);
+        test("17: takes", PromisesTest::promise17);
+        test("18: worst", PromisesTest::promise18);
+        test("19: newcomer", PromisesTest::promise19);
+        test("20: leaves", PromisesTest::promise20);
+        test("21: enough", PromisesTest::promise21);
+        test("22: help", PromisesTest::promise22);
+        test("23: net", PromisesTest::promise23);
+        test("24: loans", PromisesTest::promise24);
+        test("25: survey", PromisesTest::promise25);
+        test("26: bestSurvey", PromisesTest::promise26);
+        test("27: quarrel", PromisesTest::promise27);
+        test("28: two", PromisesTest::promise28);
+        test("29: crowd", PromisesTest::promise29);
+        test("30: raise", PromisesTest::promise30);
+        test("31: easter", PromisesTest::promise31);
+        test("32: whatIs", PromisesTest::promise32);
+        test("33: row", PromisesTest::promise33);
+        test("34: judge", PromisesTest::promise34);
+        test("35: clear", PromisesTest::promise35);
+        test("36: lots", PromisesTest::promise36);
+        test("37: image", PromisesTest::promise37);
+        test("38: on", PromisesTest::promise38);
+        test("39: count", PromisesTest::promise39);
+        Asked.end("PromisesTest");
+    }
+
+    private static void test(String promise, Runnable body) {
+        Asked.test("Promise " + promise, body);
+    }
+
     private static void due(int want, int got) {
-        asked++;
-        if (want != got) {
-            wrong++;
-            StackTraceElement at = new Throwable().getStackTrace()[1];
-            System.out.println("promise " + promise + ", line " + at.getLineNumber() + ": " + got + ", due is " + want);
-        }
+        Asked.due(want, got);
     }
 
     private static int tell(AloneIsAQuantity x, String text) {
-        for (int i = 0; i < text.length(); i++) {
-            x.letter(text.charAt(i));
-        }
-        return x.moor();
+        return Asked.tell(x, text);
     }
 
     private static AloneIsAQuantity moorOf(String text) {
-        AloneIsAQuantity x = new AloneIsAQuantity();
-        if (tell(x, text) < 0) {
-            due(0, -1);
-        }
-        return x;
+        return Asked.moorOf(text);
     }
 
-    private static int told(String text) {
-        return tell(new AloneIsAQuantity(), text);
+    /** Who is not one of the PEOPLE, if there are so many. */
+    private static int[] notOneOf(int people) {
+        return new int[] {-1, people, people + 1, MIN, MAX};
     }
 
-    private static int toldToPair(String text) {
-        return tell(moorOf(PAIR), text);
-    }
-
-    public static void main(String[] args) {
-        promises1To3();
-        promises4To6();
-        promises7To11();
-        promise12();
-        promises13To15();
-        promises16To20();
-        promises21To24();
-        promises25To28();
-        promises29To31();
-        promises32To35();
-        promises36To38();
-        promise39();
-        System.out.println("PromisesTest: " + asked + " answers, " + wrong + " wrong");
-        if (wrong > 0) {
-            System.exit(1);
-        }
-    }
-
-    private static void promises1To3() {
-        promise = 1;
+    private static void promise1() {
         AloneIsAQuantity x = new AloneIsAQuantity();
         due(0, x.count(0));
         due(0, x.count(1));
@@ -79,233 +92,205 @@ public final class PromisesTest {
         }
         due(-1, x.person(0, 0));
         due(-3, x.on());
+        due(-1000, x.moor());
+        due(0, x.clear());
+        due(360, x.sum(1));
+        // One object knows nothing of another.
+        due(1, tell(x, "pp00000;"));
+        due(0, new AloneIsAQuantity().count(0));
+        due(360, new AloneIsAQuantity().count(2));
+    }
 
-        promise = 2;
-        x = new AloneIsAQuantity();
+    private static void promise2() {
+        AloneIsAQuantity x = new AloneIsAQuantity();
         due(1, x.letter(0));
         due(2, x.letter(255));
         due(-4, x.letter(-1));
-        due(-4, x.letter(Integer.MIN_VALUE));
+        due(-4, x.letter(MIN));
         due(-6, x.letter(256));
-        due(-6, x.letter(Integer.MAX_VALUE));
+        due(-6, x.letter(MAX));
         due(2, x.count(7));
         for (int i = 3; i <= 96; i++) {
             due(i, x.letter('a'));
         }
         due(-6, x.letter('a'));
+        due(-6, x.letter(256));
         due(-4, x.letter(-1));
         due(96, x.count(7));
         due(-1000, x.moor());
         due(1, x.letter('a'));
-
-        promise = 3;
-        faultsOfTheFirstKind();
-        faultsOfTheSecondKind();
-        textsThatCome();
     }
 
-    private static void faultsOfTheFirstKind() {
-        due(-1000, told(""));
-        due(-1000, told("x"));
-        due(-1000, told(";"));
-        due(-1000, told("P"));
-        due(-1001, told("p"));
-        due(-1001, told("px"));
-        due(-1001, told("p;"));
-        due(-1002, told("ppp00000;"));
-        due(-1003, told("pp0"));
-        due(-1006, told("pp0000;"));
-        due(-1007, told("pp00000"));
-        due(-1007, told("pp000000;"));
-        due(-1008, told("pp00000;;"));
-        due(-1008, told("pp00000; a000;"));
-        due(-1003, told("a00;"));
-        due(-1004, told("l010;"));
-        due(-1005, told("k0000;"));
-        due(-1003, told("s36;"));
-        due(-1004, told("s3600;"));
-        due(-1002, told("d1;"));
-        due(-1003, told("d011;"));
-        due(-1001, told("s/00;"));
-        due(-1001, told("s:00;"));
-        // A letter that no moor goes on with is told before a statement that is not as it must be.
-        due(-1012, told("a000;s360;d0x;"));
-        AloneIsAQuantity x = moorOf(PAIR);
-        due(-1005, tell(x, "s100;x"));
-        due(360, x.count(2));
-        due(0, x.count(7));
-        for (int what = 11; what <= 16; what++) {
-            due(0, x.count(what));
-        }
-    }
-
-    private static void faultsOfTheSecondKind() {
-        due(-2000, told("pp03600;"));
-        due(-2000, told("pp09900;"));
-        due(-2000, told("a000;"));
-        due(-2000, told("k00000;"));
-        due(-2000, told("l0100;"));
-        due(-2000, toldToPair("a200;"));
-        due(-2000, toldToPair("a036;"));
-        due(-2000, toldToPair("l0000;"));
-        due(-2000, toldToPair("l0200;"));
-        due(-2000, toldToPair("l2000;"));
-        due(-2000, toldToPair("k20000;"));
-        due(-2000, toldToPair("d00;"));
-        due(-2000, toldToPair("d61;"));
-        due(-2005, toldToPair("s100;d61;"));
-        due(-2008, told("pp00000;l0100;"));
-        due(-2048, told(SIX + "pp00000;"));
-        // Days that go by in the text count: 16 times 60 is 960, 39 more are 999.
-        String long960 = "d60;d60;d60;d60;d60;d60;d60;d60;d60;d60;d60;d60;d60;d60;d60;d60;";
-        AloneIsAQuantity x = new AloneIsAQuantity();
-        due(-2064, tell(x, long960 + "d40;"));
-        due(0, x.count(1));
-        due(17, tell(x, long960 + "d39;"));
-        due(999, x.count(1));
-        due(-2000, tell(x, "d01;"));
-        // What stands before the fault does not come either.
-        x = moorOf(PAIR);
-        due(-2024, tell(x, "pp00000;a009;k00123;d01;a909;"));
-        due(2, x.count(0));
-        due(0, x.person(0, 2));
-        due(0, x.person(0, 4));
-        due(0, x.count(1));
-        due(0, x.count(7));
-    }
-
-    private static void textsThatCome() {
+    private static void promise3() {
+        // How many STATEMENTS; the letters are no more.
         AloneIsAQuantity x = new AloneIsAQuantity();
         due(1, tell(x, "pp93599;"));
-        due(9, x.person(0, 1));
-        due(35, x.person(0, 2));
-        due(99, x.person(0, 3));
+        due(0, x.count(7));
         due(5, tell(x, "ps00000;a101;l1099;k19999;s999;"));
         due(1, x.person(1, 2));
         due(99, x.loan(1, 0));
-        due(0, x.loan(0, 1));
         due(9999, x.person(1, 4));
         due(999, x.count(2));
-        // LENT becomes the number told; it is not added.
-        due(1, tell(x, "l1001;"));
-        due(1, x.loan(1, 0));
-        // Days go by between the statements, with what is then: 120 and 240 a day, then 0.
-        x = moorOf(PAIR);
-        due(3, tell(x, "d02;s000;d01;"));
-        due(3, x.count(1));
-        due(210, x.person(0, 4));
-        due(450, x.person(1, 4));
+        due(24, tell(x, Asked.times(24, "d01;")));
+        due(-1000, x.moor());
+        // With a FAULT they are no more either, nothing comes, and nothing is counted.
+        String before = Asked.state(x);
+        due(-1005, tell(x, "s100;x"));
         due(0, x.count(7));
-        due(4, told("pp00000;pp00000;l0100;l0199;"));
+        due(-2005, tell(x, "s100;a900;"));
+        due(0, x.count(7));
+        due(-1006, tell(x, "s100;a\u00ff"));
+        Asked.same(before, Asked.state(x));
+        Asked.same("0 0 0 0 0 0 ", Asked.refusals(x));
+        // Of both kinds the first, of one kind the first place; 16 times 60 and 39 DAYS are 999.
+        String long960 = Asked.times(16, "d60;");
+        due(-1012, Asked.told("a000;s360;d0x;"));
+        due(-2000, Asked.told("a000;s360;d61;"));
+        due(-2064, Asked.told(long960 + "d40;"));
+        due(17, Asked.told(long960 + "d39;"));
+        due(-2068, Asked.told(long960 + "d39;d01;"));
     }
 
-    private static void promises4To6() {
-        promise = 4;
+    private static void promise4() {
         AloneIsAQuantity x = moorOf(SIX);
         int[] weights = {21, 30, 38, 9, 48, 11};
         int[] shares = {49, 69, 87, 20, 110, 25};
         int[] figures = {0, 3, 0, 0, 4, 1};
         int[] cells = {0, 3, 6, 12, 35, 30};
         for (int i = 0; i < 6; i++) {
+            x.need(i, 90 + i);
+            x.keep(i, 9000 + i);
             due(i, x.person(i, 0));
             due(figures[i], x.person(i, 1));
             due(cells[i], x.person(i, 2));
-            due(0, x.person(i, 3));
-            due(0, x.person(i, 4));
+            due(90 + i, x.person(i, 3));
+            due(9000 + i, x.person(i, 4));
             due(weights[i], x.person(i, 5));
             due(shares[i], x.person(i, 6));
         }
-        due(-1, x.person(-1, 0));
-        due(-1, x.person(6, 9));
-        due(-2, x.person(0, 7));
-        due(-2, x.person(5, -1));
-        // Alone, a PERSON weighs 1, and what is over him at least that.
-        String[] alone = {"pp90000;", "ps00000;", "pw00000;", "pc00000;", "po00000;", "pn90000;", "po50000;"};
-        int[] weighs = {1, 1, 2, 1, 6, 1, 11};
-        for (int i = 0; i < alone.length; i++) {
-            due(weighs[i], moorOf(alone[i]).person(0, 5));
-            due(360, moorOf(alone[i]).person(0, 6));
+        for (int one : notOneOf(6)) {
+            due(-1, x.person(one, 0));
+            due(-1, x.person(one, 7));
         }
-        // A POET: somebody 2 STEPS from him is nearer than 3, one 3 STEPS from him is not.
-        due(2, moorOf("po00000;pp00200;").person(0, 5));
-        due(8, moorOf("po00000;pp00300;").person(0, 5));
-        // SUM 0 is shared too.
-        x = moorOf(PAIR + "s000;");
-        due(0, x.person(0, 6));
-        due(0, x.person(1, 6));
+        for (int what : new int[] {-1, 7, 8, MIN, MAX}) {
+            due(-2, x.person(0, what));
+            due(-2, x.person(5, what));
+        }
+        due(-1, moorOf(PAIR).person(2, 0));
+        due(1, moorOf(PAIR).person(1, 0));
+    }
 
-        promise = 5;
-        x = moorOf(PAIR + "l0130;");
+    private static void promise5() {
+        AloneIsAQuantity x = moorOf(PAIR + "l0130;");
         due(90, x.owns(0));
         due(270, x.owns(1));
+        x.sum(90);
+        due(0, x.owns(0));
+        x.sum(87);
+        due(-1, x.owns(0));
         x.sum(0);
         due(-30, x.owns(0));
         due(30, x.owns(1));
-        due(FAR + 1, x.owns(2));
-        due(FAR + 1, x.owns(-1));
-        due(2, x.count(11));
+        for (int one : notOneOf(2)) {
+            due(FAR + 1, x.owns(one));
+        }
+        due(5, x.count(11));
+    }
 
-        promise = 6;
+    private static void promise6() {
+        AloneIsAQuantity x = moorOf(PAIR + "l0130;");
         due(30, x.loan(0, 1));
         due(0, x.loan(1, 0));
         due(-1, x.loan(0, 0));
-        due(-1, x.loan(0, 2));
-        due(-1, x.loan(-1, 0));
+        due(-1, x.loan(1, 1));
+        for (int one : notOneOf(2)) {
+            due(-1, x.loan(0, one));
+            due(-1, x.loan(one, 1));
+            due(-1, x.loan(one, one));
+        }
     }
 
-    private static void promises7To11() {
-        promise = 7;
+    private static void promise7() {
         AloneIsAQuantity x = moorOf(PAIR);
         due(0, x.go(0, 35));
+        due(35, x.go(0, 35));
         due(35, x.go(0, 5));
         due(1, x.person(0, 5));
         due(6, x.person(1, 5));
         due(52, x.person(0, 6));
-        due(-1, x.go(2, 0));
-        due(-1, x.go(0, 36));
-        due(-1, x.go(0, -1));
+        due(5, x.go(1, 0));
+        for (int one : notOneOf(2)) {
+            due(-1, x.go(one, 0));
+        }
+        for (int cell : new int[] {-1, 36, 37, MIN, MAX}) {
+            due(-1, x.go(1, cell));
+        }
         due(5, x.person(0, 2));
+        due(0, x.person(1, 2));
+    }
 
-        promise = 8;
+    private static void promise8() {
+        AloneIsAQuantity x = moorOf(PAIR);
         due(0, x.lend(0, 1, 99));
         due(99, x.lend(0, 1, 7));
         due(7, x.loan(0, 1));
+        due(0, x.loan(1, 0));
+        due(113, x.owns(0));
+        due(247, x.owns(1));
         due(-1, x.lend(0, 0, -1));
         due(-1, x.lend(0, 2, 100));
+        due(-1, x.lend(-1, 0, 0));
         due(-4, x.lend(0, 1, -1));
         due(-6, x.lend(0, 1, 100));
+        due(0, x.lend(1, 0, 1));
         due(7, x.lend(0, 1, 0));
+        due(0, x.loan(0, 1));
+        due(1, x.loan(1, 0));
+    }
 
-        promise = 9;
+    private static void promise9() {
+        AloneIsAQuantity x = moorOf(PAIR);
         due(0, x.keep(1, 9999));
-        due(9999, x.keep(1, 0));
+        due(9999, x.keep(1, 1));
+        due(1, x.keep(1, 0));
         due(-1, x.keep(2, -1));
+        due(-1, x.keep(-1, 10000));
         due(-4, x.keep(1, -1));
         due(-6, x.keep(1, 10000));
         due(0, x.person(1, 4));
+        due(0, x.person(0, 4));
+    }
 
-        promise = 10;
+    private static void promise10() {
+        AloneIsAQuantity x = moorOf(PAIR);
         due(10, x.need(1, 99));
         due(99, x.need(1, 0));
-        due(-1, x.need(-1, 0));
+        due(-1, x.need(-1, 100));
+        due(-1, x.need(2, -1));
         due(-4, x.need(1, -1));
         due(-6, x.need(1, 100));
         due(0, x.person(1, 3));
+        due(10, x.person(0, 3));
+    }
 
-        promise = 11;
+    private static void promise11() {
+        AloneIsAQuantity x = moorOf(PAIR);
         due(360, x.sum(999));
+        due(333, x.person(0, 6));
+        due(666, x.person(1, 6));
         due(999, x.sum(0));
+        due(0, x.person(0, 6));
         due(-4, x.sum(-1));
+        due(-4, x.sum(MIN));
         due(-6, x.sum(1000));
+        due(-6, x.sum(MAX));
         due(0, x.sum(90));
         due(90, x.count(2));
     }
 
     private static void promise12() {
-        promise = 12;
         // SHARES 30 and 60; the first needs 50 and has 30 kept: one day it is enough, the next it is not.
-        String poor = PAIR + "s090;k00030;k19980;";
-        AloneIsAQuantity x = moorOf(poor);
+        AloneIsAQuantity x = moorOf(PAIR + "s090;k00030;k19980;");
         x.need(0, 50);
         due(0, x.days(1));
         due(10, x.person(0, 4));
@@ -318,13 +303,18 @@ public final class PromisesTest {
         due(0, x.person(0, 4));
         x.keep(0, 60);
         due(0, x.days(3));
+        // On the last one: both are SHORT then, or nobody who was SHORT before.
         x.sum(0);
         x.keep(1, 5);
         due(2, x.days(2));
         due(-4, x.days(0));
         due(-4, x.days(-7));
+        due(-4, x.days(MIN));
         due(-6, x.days(61));
-        due(-6, x.days(Integer.MAX_VALUE));
+        due(-6, x.days(MAX));
+        due(2, x.days(60));
+        AloneIsAQuantity six = moorOf("pp00001;pp00001;pp00001;pp00001;pp00001;pp00001;s000;");
+        due(6, six.days(1));
         x = new AloneIsAQuantity();
         for (int i = 0; i < 16; i++) {
             due(0, x.days(60));
@@ -333,11 +323,11 @@ public final class PromisesTest {
         due(960, x.count(1));
         due(0, x.days(39));
         due(-6, x.days(1));
+        due(-4, x.days(0));
         due(999, x.count(1));
     }
 
-    private static void promises13To15() {
-        promise = 13;
+    private static void promise13() {
         AloneIsAQuantity x = moorOf(PAIR + "s090;k00030;");
         x.need(0, 50);
         int[] kept = {30, 10, 0, 0};
@@ -348,15 +338,20 @@ public final class PromisesTest {
         }
         due(98, x.behind(0, 99, 1));
         due(4950, x.behind(1, 99, 0));
+        due(0, x.behind(1, 99, 1));
         due(30, x.person(0, 4));
         due(0, x.count(1));
         due(-1, x.behind(2, -1, 9));
+        due(-1, x.behind(-1, 0, 0));
         due(-4, x.behind(0, -1, 9));
         due(-6, x.behind(0, 100, 9));
         due(-2, x.behind(0, 99, 2));
         due(-2, x.behind(0, 0, -1));
+    }
 
-        promise = 14;
+    private static void promise14() {
+        AloneIsAQuantity x = moorOf(PAIR + "s090;k00030;");
+        x.need(0, 50);
         due(2, x.firstShort(0));
         due(0, x.firstShort(1));
         due(-2, x.firstShort(2));
@@ -378,32 +373,34 @@ public final class PromisesTest {
         x.keep(1, 979 - 98);
         due(9, x.firstShort(0));
         due(1, x.firstShort(1));
-        // In thought DAY may pass 999.
-        AloneIsAQuantity y = moorOf("pp00050;");
-        for (int i = 0; i < 16; i++) {
-            y.days(60);
-        }
-        y.days(39);
-        y.sum(0);
-        y.keep(0, 4900);
-        due(99, y.firstShort(0));
-        due(0, y.firstShort(1));
-        due(98, y.lasts(0));
-        due(0, y.behind(0, 99, 0));
-        due(1, y.behind(0, 99, 1));
-
-        promise = 15;
-        due(9, x.lasts(0));
-        due(8, x.lasts(1));
-        y.keep(0, 4950);
-        due(99, y.lasts(0));
-        y.keep(0, 0);
-        due(0, y.lasts(0));
-        due(-1, y.lasts(1));
+        // DAY 99 is the last that is looked at.
+        x.keep(0, 9999);
+        x.keep(1, 9800);
+        due(99, x.firstShort(0));
+        due(1, x.firstShort(1));
+        x.keep(1, 9801);
+        due(-9, x.firstShort(0));
+        due(-9, x.firstShort(1));
     }
 
-    private static void promises16To20() {
-        promise = 16;
+    private static void promise15() {
+        AloneIsAQuantity x = moorOf("pp00099;pp00099;s000;");
+        due(0, x.lasts(0));
+        x.keep(0, 99);
+        due(1, x.lasts(0));
+        x.keep(0, 9800);
+        due(98, x.lasts(0));
+        x.keep(0, 9801);
+        due(99, x.lasts(0));
+        x.keep(0, 9999);
+        due(99, x.lasts(0));
+        due(0, x.lasts(1));
+        for (int one : notOneOf(2)) {
+            due(-1, x.lasts(one));
+        }
+    }
+
+    private static void promise16() {
         AloneIsAQuantity x = moorOf(PAIR);
         due(30, x.bestCell(0, 0));
         due(144, x.bestCell(0, 1));
@@ -414,35 +411,47 @@ public final class PromisesTest {
         due(35, x.bestCell(1, 2));
         due(5, x.person(1, 2));
         due(-1, x.bestCell(2, 9));
+        due(-1, x.bestCell(-1, 0));
         due(-2, x.bestCell(0, 3));
         due(-2, x.bestCell(0, -1));
         AloneIsAQuantity alone = moorOf("pp02000;");
         due(0, alone.bestCell(0, 0));
         due(360, alone.bestCell(0, 1));
         due(0, alone.bestCell(0, 2));
+    }
 
-        promise = 17;
+    private static void promise17() {
+        AloneIsAQuantity x = moorOf(PAIR);
         due(120, x.takes(0, 1));
         due(240, x.takes(1, 0));
         due(FAR + 1, x.takes(0, 0));
         due(FAR + 1, x.takes(0, 2));
         due(FAR + 1, x.takes(-1, 0));
+        due(FAR + 1, x.takes(2, 2));
         due(4, x.count(11));
         // Far from the others, one may give more than he takes.
         AloneIsAQuantity three = moorOf(THREE);
         due(-87, three.takes(2, 0));
         due(208, three.takes(1, 0));
+    }
 
-        promise = 18;
+    private static void promise18() {
+        AloneIsAQuantity three = moorOf(THREE);
         due(1, three.worst(0));
-        due(-9, alone.worst(0));
-        due(-1, alone.worst(1));
-        due(1, moorOf("pp00000;pp00000;pp00000;").worst(0));
-        due(0, moorOf("pp00000;pp00000;pp00000;").worst(2));
+        due(-9, moorOf("pp02000;").worst(0));
+        due(-1, moorOf("pp02000;").worst(1));
+        due(-1, three.worst(3));
+        due(-1, three.worst(-1));
+        due(1, moorOf(ALIKE).worst(0));
+        due(0, moorOf(ALIKE).worst(1));
+        due(0, moorOf(ALIKE).worst(2));
         // Also when nobody takes anything.
         due(1, moorOf(PAIR + "s000;").worst(0));
+        due(0, moorOf(PAIR + "s000;").worst(1));
+    }
 
-        promise = 19;
+    private static void promise19() {
+        AloneIsAQuantity x = moorOf(PAIR);
         due(72, x.newcomer(0, 0));
         due(72, x.newcomer(0, 1));
         due(2, x.count(0));
@@ -454,30 +463,41 @@ public final class PromisesTest {
         due(-9, six.newcomer(0, 0));
         due(-9, six.newcomer(0, 1));
         due(FAR + 1, six.newcomer(36, 0));
+        due(FAR + 2, six.newcomer(35, 2));
+        AloneIsAQuantity five = moorOf(SIX.substring(0, 40));
+        due(360, five.newcomer(35, 0) + five.survey(35));
         due(360, new AloneIsAQuantity().newcomer(35, 0));
         due(0, new AloneIsAQuantity().newcomer(35, 1));
+    }
 
-        promise = 20;
+    private static void promise20() {
+        AloneIsAQuantity x = moorOf(PAIR);
         due(0, x.leaves(0));
         due(1, x.leaves(1));
         due(-2, x.leaves(2));
         due(-2, x.leaves(-1));
         due(-9, new AloneIsAQuantity().leaves(0));
         due(-9, new AloneIsAQuantity().leaves(1));
-        due(0, alone.leaves(0));
-        due(0, alone.leaves(1));
+        due(0, moorOf("pp02000;").leaves(0));
+        due(0, moorOf("pp02000;").leaves(1));
         // With 50 borrowed from the first, the second HAS 90; without him 60.
         AloneIsAQuantity lent = moorOf(PAIR + "s060;l0150;");
         due(1, lent.leaves(0));
         due(1, lent.leaves(1));
         // The loan between the two who stay is as it was.
-        AloneIsAQuantity stay = moorOf("pp00000;pp00000;pp00000;l1299;");
+        AloneIsAQuantity stay = moorOf(ALIKE + "l1299;");
         due(0, stay.leaves(0));
         due(2, stay.leaves(1));
+        // They HAVE 0 2 1; without the first -, 3, 0; without the second 1, -, 2; without the third 2, 1, -.
+        AloneIsAQuantity chain = moorOf(ALIKE + "s003;l0201;l2101;");
+        due(1, chain.leaves(0));
+        due(2, chain.leaves(1));
+        // Who HAS as much as now has no more: 1 1 0, and without the third 1 1.
+        due(0, moorOf(ALIKE + "s002;").leaves(0));
+        due(1, moorOf(ALIKE + "s002;").leaves(1));
     }
 
-    private static void promises21To24() {
-        promise = 21;
+    private static void promise21() {
         AloneIsAQuantity x = moorOf(PAIR);
         due(3, x.enough());
         x.sum(90);
@@ -486,21 +506,29 @@ public final class PromisesTest {
         due(2, x.enough());
         x.need(0, 30);
         due(3, x.enough());
+        x.need(1, 61);
+        due(1, x.enough());
+        x.need(1, 60);
         x.lend(1, 0, 1);
         due(1, x.enough());
         due(0, new AloneIsAQuantity().enough());
+        due(63, moorOf(SIX).enough());
+    }
 
-        promise = 22;
+    private static void promise22() {
         // One lacks 20, the other one, 5 STEPS from him, has 40 too much.
-        x = moorOf(PAIR + "s090;");
+        AloneIsAQuantity x = moorOf(PAIR + "s090;");
         x.need(0, 50);
         x.need(1, 20);
         due(0, x.help(4, 0));
         due(0, x.help(4, 1));
         due(20, x.help(5, 0));
         due(1, x.help(5, 1));
-        x.need(1, 45);
-        due(15, x.help(10, 0));
+        x.need(1, 40);
+        due(20, x.help(10, 0));
+        due(1, x.help(10, 1));
+        x.need(1, 41);
+        due(19, x.help(10, 0));
         due(0, x.help(10, 1));
         due(-4, x.help(-1, 9));
         due(-6, x.help(11, 9));
@@ -520,15 +548,23 @@ public final class PromisesTest {
         due(0, four.help(0, 0));
         due(20, four.help(1, 0));
         due(1, four.help(1, 1));
+    }
 
-        promise = 23;
-        x = moorOf(PAIR + "l0130;l1010;");
+    private static void promise23() {
+        AloneIsAQuantity x = moorOf(PAIR + "l0130;l1010;");
         due(20, x.net(0));
         due(-20, x.net(1));
-        due(FAR + 1, x.net(2));
-        due(FAR + 1, x.net(-1));
+        x.lend(1, 0, 30);
+        due(0, x.net(0));
+        due(0, x.net(1));
+        for (int one : notOneOf(2)) {
+            due(FAR + 1, x.net(one));
+        }
+        due(5, x.count(11));
+    }
 
-        promise = 24;
+    private static void promise24() {
+        AloneIsAQuantity x = moorOf(PAIR + "l0130;l1010;");
         due(2, x.loans(0));
         due(1, x.loans(1));
         due(-2, x.loans(2));
@@ -544,8 +580,7 @@ public final class PromisesTest {
         due(3, six.loans(1));
     }
 
-    private static void promises25To28() {
-        promise = 25;
+    private static void promise25() {
         AloneIsAQuantity x = moorOf(PAIR);
         due(288, x.survey(0));
         due(-1, x.survey(36));
@@ -555,21 +590,32 @@ public final class PromisesTest {
         // To six he comes too: he weighs 21 in CELL 0, the others 21 33 40 10 58 14 then.
         AloneIsAQuantity six = moorOf(SIX);
         due(322, six.survey(0));
+        due(6, six.count(0));
+        due(-1, six.survey(36));
+    }
 
-        promise = 26;
-        due(0, x.bestSurvey());
+    private static void promise26() {
+        due(0, moorOf(PAIR).bestSurvey());
         due(0, new AloneIsAQuantity().bestSurvey());
         // Beside the SHEPHERD and with him the surveyor weighs 1, the SHEPHERD 6.
         due(14, moorOf("ps52000;").bestSurvey());
         due(309, moorOf("ps52000;").survey(14));
+        due(309, moorOf("ps52000;").survey(20));
+        due(28, moorOf("ps53400;").bestSurvey());
+        due(0, moorOf("ps50000;").bestSurvey());
+        // To six in the last CELL he comes nearest in that CELL alone: a STEP beside it he weighs 6.
+        due(35, moorOf("ps93500;ps93500;ps93500;ps93500;ps93500;ps93500;").bestSurvey());
+    }
 
-        promise = 27;
+    private static void promise27() {
+        AloneIsAQuantity x = moorOf(PAIR);
         due(6, x.quarrel(0, 1, 5, 0));
         due(8, x.quarrel(0, 1, 5, 1));
         due(11, x.quarrel(1, 0, 5, 0));
         due(-8, x.quarrel(1, 0, 5, 1));
         due(0, x.quarrel(0, 1, 4, 0));
         due(0, x.quarrel(0, 1, 4, 1));
+        due(0, x.quarrel(0, 1, 1, 0));
         due(30, x.quarrel(0, 1, 9, 0));
         due(-9, x.quarrel(0, 1, 10, 0));
         due(-9, x.quarrel(0, 1, 10, 1));
@@ -581,8 +627,10 @@ public final class PromisesTest {
         due(FAR + 6, x.quarrel(0, 1, 11, 9));
         due(FAR + 2, x.quarrel(0, 1, 10, 2));
         due(FAR + 2, x.quarrel(0, 1, 1, -1));
+    }
 
-        promise = 28;
+    private static void promise28() {
+        AloneIsAQuantity x = moorOf(PAIR);
         // The first goes down from the other, who goes left after him.
         due(42, x.two(0, 1));
         due(24, x.two(1, 0));
@@ -590,6 +638,7 @@ public final class PromisesTest {
         due(-1, x.two(0, 2));
         due(-1, x.two(-1, 1));
         due(0, x.person(0, 2));
+        due(5, x.person(1, 2));
         due(12, moorOf("pp03000;ps53500;").two(0, 1));
         due(43, moorOf("pp00500;ps50000;").two(0, 1));
         due(22, moorOf("pp00100;ps50300;").two(0, 1));
@@ -600,10 +649,10 @@ public final class PromisesTest {
         due(0, moorOf("pp01400;ps51400;").two(0, 1));
         // The POET wants 3 STEPS between them, the COUPLE anything else, and can have it.
         due(-9, moorOf("po81400;pc61600;").two(0, 1));
+        due(-9, moorOf("po81400;pc61600;").two(1, 0));
     }
 
-    private static void promises29To31() {
-        promise = 29;
+    private static void promise29() {
         AloneIsAQuantity x = moorOf(PAIR);
         due(5, x.crowd(0));
         due(5, x.crowd(1));
@@ -621,23 +670,27 @@ public final class PromisesTest {
         }
         due(-2, x.crowd(3));
         due(-2, x.crowd(-1));
+    }
 
-        promise = 30;
+    private static void promise30() {
+        AloneIsAQuantity x = moorOf(PAIR);
         // With 28 the first has 9 and the 1 that is left over.
         due(28, x.raise());
         due(360, x.count(2));
         due(0, new AloneIsAQuantity().raise());
         due(-9, moorOf("pp00000;pn93599;").raise());
         due(990, moorOf("pp00000;pn93590;").raise());
+        due(-9, moorOf("pp00000;pn93591;").raise());
         // A ninth less 12 LENT is 99 with 999, and not with less.
         due(999, moorOf("pp00000;pn93399;l1012;").raise());
         due(-9, moorOf("pp00000;pn93399;l1013;").raise());
         due(99, moorOf("po50099;").raise());
         x.lend(1, 0, 10);
         due(30, x.raise());
+    }
 
-        promise = 31;
-        x = moorOf(PAIR);
+    private static void promise31() {
+        AloneIsAQuantity x = moorOf(PAIR);
         int[] kept = {0, 298, 528, 758, 988, 1218, 1448, 1678, 1976, 2206};
         for (int n = 0; n < kept.length; n++) {
             due(kept[n], x.easter(0, 1, n));
@@ -659,8 +712,7 @@ public final class PromisesTest {
         due(-6, x.easter(0, 1, 100));
     }
 
-    private static void promises32To35() {
-        promise = 32;
+    private static void promise32() {
         AloneIsAQuantity x = moorOf(PAIR + "s150;");
         due(-3, x.whatIs(0, 0));
         x.row(50);
@@ -672,6 +724,7 @@ public final class PromisesTest {
         due(32, x.whatIs(1, 1));
         due(2, x.count(6));
         due(-1, x.whatIs(2, 9));
+        due(-1, x.whatIs(-1, 0));
         due(-2, x.whatIs(0, 2));
         due(-2, x.whatIs(0, -1));
         x.row(0);
@@ -679,22 +732,34 @@ public final class PromisesTest {
         due(-3, x.whatIs(0, 1));
         due(0, x.person(0, 0));
         due(5, x.person(1, 1));
+        // All of it must be so: the last share, too.
+        x.clear();
+        x.row(50);
+        x.row(98);
+        due(0, x.whatIs(0, 0));
+        due(0, x.whatIs(1, 1));
+    }
 
-        promise = 33;
-        x = moorOf(PAIR + "s030;");
+    private static void promise33() {
+        AloneIsAQuantity x = new AloneIsAQuantity();
         due(-4, x.row(-1));
         due(-6, x.row(100));
         for (int i = 1; i <= 12; i++) {
             due(i, x.row(i == 1 ? 0 : 99));
         }
         due(-6, x.row(1));
+        due(-6, x.row(100));
         due(-4, x.row(-1));
         due(12, x.count(6));
+    }
 
-        promise = 34;
+    private static void promise34() {
+        AloneIsAQuantity x = moorOf(PAIR + "s030;");
+        x.row(0);
+        x.row(99);
         due(-1, x.judge(2));
         due(-1, x.judge(-1));
-        due(12, x.count(6));
+        due(2, x.count(6));
         due(1, x.judge(1));
         due(0, x.count(6));
         due(-9, x.judge(1));
@@ -713,18 +778,30 @@ public final class PromisesTest {
         due(2, x.judge(1));
         x.row(79);
         due(0, x.judge(1));
+        for (int i = 0; i < 12; i++) {
+            x.row(i < 11 ? Math.min(99, 80 + 10 * i) : 0);
+        }
+        due(11, x.judge(1));
+        due(0, x.count(6));
+    }
 
-        promise = 35;
+    private static void promise35() {
+        AloneIsAQuantity x = new AloneIsAQuantity();
         due(0, x.clear());
         x.row(1);
         x.row(2);
         due(2, x.clear());
         due(0, x.count(6));
         due(1, x.row(3));
+        for (int i = 2; i <= 12; i++) {
+            x.row(3);
+        }
+        due(12, x.clear());
+        due(0, x.clear());
+        due(1, x.row(3));
     }
 
-    private static void promises36To38() {
-        promise = 36;
+    private static void promise36() {
         AloneIsAQuantity x = moorOf(PAIR);
         // Draws from 0: CELLS 23 and 21, then 18 and 23.
         due(80, x.lots(1, 0, 0));
@@ -739,12 +816,25 @@ public final class PromisesTest {
         due(-2, x.lots(1, 0, -1));
         due(-2, new AloneIsAQuantity().lots(1, 0, 2));
         due(-3, new AloneIsAQuantity().lots(1, 0, 0));
-        due(7200, moorOf("pp00000;").lots(20, Integer.MIN_VALUE, 0));
-        due(20, moorOf("pp00000;").lots(20, Integer.MAX_VALUE, 1));
+        due(7200, moorOf("pp00000;").lots(20, MIN, 0));
+        due(20, moorOf("pp00000;").lots(20, MAX, 1));
+    }
 
-        promise = 37;
-        x = moorOf(PAIR + "d03;l0130;");
+    private static void promise37() {
+        AloneIsAQuantity x = moorOf(PAIR + "d03;l0130;");
+        String then = Asked.state(x);
         due(3, x.image());
+        Asked.same(then, Asked.state(x));
+        x.days(4);
+        due(7, x.image());
+        due(7, x.on());
+        due(0, new AloneIsAQuantity().image());
+        due(999, Asked.onDay(999).image());
+    }
+
+    private static void promise38() {
+        AloneIsAQuantity x = moorOf(PAIR + "d03;l0130;");
+        x.image();
         x.row(7);
         x.letter('p');
         x.days(4);
@@ -754,8 +844,6 @@ public final class PromisesTest {
         x.lend(0, 1, 2);
         x.keep(1, 4);
         x.days(-1);
-
-        promise = 38;
         due(3, x.on());
         due(3, x.count(1));
         due(360, x.count(2));
@@ -790,7 +878,6 @@ public final class PromisesTest {
     }
 
     private static void promise39() {
-        promise = 39;
         AloneIsAQuantity x = moorOf(SIX + "d02;k09000;s010;");
         x.need(0, 99);
         x.need(5, 98);
@@ -817,9 +904,10 @@ public final class PromisesTest {
         due(1, x.count(14));
         due(0, x.count(15));
         due(2, x.count(16));
-        for (int what : new int[] {-1, 8, 9, 10, 17, Integer.MIN_VALUE, Integer.MAX_VALUE}) {
+        for (int what : new int[] {-1, 8, 9, 10, 17, MIN, MAX, -11, -16}) {
             due(-9, x.count(what));
         }
-        due(1, x.count(12));
+        // No what is refused here.
+        Asked.same("2 1 1 1 0 2 ", Asked.refusals(x));
     }
 }
