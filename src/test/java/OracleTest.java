@@ -118,7 +118,8 @@ public final class OracleTest {
 
     private int argument(char sort) {
         if (random.nextInt(wild ? 12 : 60) == 0) {
-            int[] odd = {-1, -2, Integer.MIN_VALUE, Integer.MAX_VALUE, 100, 1000, 10000, 36, 37, 7, 12, 61, 1 << 30};
+            int[] odd = {-1, -2, Integer.MIN_VALUE, Integer.MAX_VALUE, 1 << 30, 0, 1, 5, 6, 7, 10, 11, 12, 20, 21, 35, 36,
+                60, 61, 99, 100, 255, 256, 999, 1000, 9999, 10000};
             return odd[random.nextInt(odd.length)];
         }
         int people = oracle.call("count", 0);

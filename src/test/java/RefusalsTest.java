@@ -12,6 +12,15 @@ public final class RefusalsTest {
     private static final int[] BELOW_0 = {-1, -2, MIN};
     private static final int[] BELOW_1 = {0, -1, MIN};
 
+    private static final Asked.Call[] ASKING = {x -> x.person(0, 6), x -> x.owns(0), x -> x.loan(0, 1), x -> x.behind(0, 99, 0),
+        x -> x.behind(2, 99, 1), x -> x.firstShort(0), x -> x.firstShort(1), x -> x.lasts(0), x -> x.bestCell(0, 0),
+        x -> x.bestCell(0, 1), x -> x.bestCell(0, 2), x -> x.takes(0, 1), x -> x.worst(0), x -> x.newcomer(0, 0),
+        x -> x.newcomer(0, 1), x -> x.leaves(0), x -> x.leaves(1), x -> x.enough(), x -> x.help(5, 0), x -> x.help(5, 1),
+        x -> x.net(0), x -> x.loans(0), x -> x.loans(1), x -> x.survey(0), x -> x.bestSurvey(),
+        x -> x.quarrel(0, 1, 5, 0), x -> x.quarrel(0, 1, 5, 1), x -> x.quarrel(0, 1, 10, 0), x -> x.two(0, 1),
+        x -> x.crowd(0), x -> x.crowd(1), x -> x.crowd(2), x -> x.raise(), x -> x.easter(0, 1, 99),
+        x -> x.lots(20, 7, 0), x -> x.lots(20, 7, 1), x -> x.count(0), x -> x.count(8), x -> x.count(-1), x -> x.count(17)};
+
     private RefusalsTest() {
     }
 
@@ -21,6 +30,7 @@ public final class RefusalsTest {
         refusalsOfThoughts();
         refusalsOfRowsAndImages();
         Asked.test("who only asks changes nothing", RefusalsTest::askingChangesNothing);
+        Asked.test("what is thought is thought of what is now", RefusalsTest::thoughtOfNow);
         Asked.test("nobody is there: what all calls answer then", RefusalsTest::nobodyIsThere);
         image();
         Asked.end("RefusalsTest");
@@ -404,15 +414,7 @@ public final class RefusalsTest {
     // ---- who only asks
 
     private static void askingChangesNothing() {
-        Asked.Call[] calls = {x -> x.person(0, 6), x -> x.owns(0), x -> x.loan(0, 1), x -> x.behind(0, 99, 0),
-            x -> x.behind(2, 99, 1), x -> x.firstShort(0), x -> x.firstShort(1), x -> x.lasts(0), x -> x.bestCell(0, 0),
-            x -> x.bestCell(0, 1), x -> x.bestCell(0, 2), x -> x.takes(0, 1), x -> x.worst(0), x -> x.newcomer(0, 0),
-            x -> x.newcomer(0, 1), x -> x.leaves(0), x -> x.leaves(1), x -> x.enough(), x -> x.help(5, 0), x -> x.help(5, 1),
-            x -> x.net(0), x -> x.loans(0), x -> x.loans(1), x -> x.survey(0), x -> x.bestSurvey(),
-            x -> x.quarrel(0, 1, 5, 0), x -> x.quarrel(0, 1, 5, 1), x -> x.quarrel(0, 1, 10, 0), x -> x.two(0, 1),
-            x -> x.crowd(0), x -> x.crowd(1), x -> x.crowd(2), x -> x.raise(), x -> x.easter(0, 1, 99),
-            x -> x.lots(20, 7, 0), x -> x.lots(20, 7, 1), x -> x.count(0), x -> x.count(8), x -> x.count(-1), x -> x.count(17)};
-        for (Asked.Call call : calls) {
+        for (Asked.Call call : ASKING) {
             AloneIsAQuantity x = some();
             AloneIsAQuantity twin = some();
             int first = call.of(x);
@@ -425,6 +427,41 @@ public final class RefusalsTest {
             x.whatIs(1, what);
             Asked.same("0 0 0 0 0 0 ", Asked.refusals(x));
             alike(some(3), x);
+        }
+    }
+
+    /** Each call behind a change, and behind another thought, answers as on a moor that is told so anew. */
+    private static void thoughtOfNow() {
+        for (Asked.Call call : ASKING) {
+            AloneIsAQuantity x = Asked.moorOf("pp00001;ps13502;pw21403;po30504;");
+            x.survey(0);
+            x.go(0, 2);
+            x.go(1, 20);
+            x.go(2, 9);
+            due(call.of(Asked.moorOf("pp00201;ps12002;pw20903;po30504;")), call.of(x));
+            x.behind(0, 99, 0);
+            x.sum(99);
+            due(call.of(Asked.moorOf("pp00201;ps12002;pw20903;po30504;s099;")), call.of(x));
+            x.lots(3, 5, 0);
+            x.need(0, 45);
+            x.need(1, 55);
+            x.keep(0, 70);
+            x.keep(2, 9990);
+            String told = "pp00245;ps12055;pw20903;po30504;s099;k00070;k29990;";
+            due(call.of(Asked.moorOf(told)), call.of(x));
+            x.takes(0, 1);
+            x.lend(1, 2, 20);
+            x.lend(3, 1, 35);
+            due(call.of(Asked.moorOf(told + "l1220;l3135;")), call.of(x));
+            x.two(0, 1);
+            x.image();
+            x.sum(200);
+            x.go(0, 35);
+            x.on();
+            due(call.of(Asked.moorOf(told + "l1220;l3135;")), call.of(x));
+            // A FAULT leaves nothing behind, neither in thought.
+            Asked.tell(x, "pp00000;a035;s999;l0199;d60;d00;");
+            due(call.of(Asked.moorOf(told + "l1220;l3135;")), call.of(x));
         }
     }
 

@@ -167,12 +167,20 @@ public final class ThoughtsTest {
             due(0, moorOf(PAIR + "s000;").bestCell(1, 0));
             due(0, moorOf(PAIR + "s000;").bestCell(1, 1));
         });
+        test("BEST CELL, KIND CELL: a SHARE of 1 is greater than one of 0", () -> {
+            // A WIDOW 9 STEPS from the SHEPHERD weighs 18 as he does, nearer she weighs less than half of all.
+            AloneIsAQuantity x = moorOf("ps90000;pw00000;s002;");
+            due(29, x.bestCell(1, 0));
+            due(1, x.bestCell(1, 1));
+            due(29, x.bestCell(0, 2));
+        });
         test("KIND CELL: in which the least SHARE of all others is greatest, of several the least", () -> {
             // 5 STEPS from both corners: 5, 10, 15, 20, 25 and 30.
             due(5, moorOf("pp01400;pp00000;pp03500;").bestCell(0, 2));
             due(5, moorOf("pp00000;pp01400;pp03500;").bestCell(1, 2));
             due(4, moorOf(PAIR).bestCell(0, 2));
             due(35, moorOf(PAIR).bestCell(1, 2));
+            due(30, moorOf("ps50000;pp00500;").bestCell(0, 2));
             due(0, moorOf(PAIR + "s000;").bestCell(1, 2));
         });
         test("KIND CELL: 0 of one who is alone", () -> {
@@ -202,6 +210,14 @@ public final class ThoughtsTest {
             AloneIsAQuantity far = moorOf("pp00000;ps90000;pn93500;");
             due(-87, far.takes(2, 0));
             due(99, far.takes(2, 1));
+            // Those behind him stay who they are: WEIGHTS 40 13 18, without the first 4 and 9.
+            AloneIsAQuantity behind = moorOf("pw03500;ps30000;ps80000;s130;");
+            due(40 - 24, behind.takes(0, 1));
+            due(90 - 32, behind.takes(0, 2));
+            // WEIGHTS 13 4 1, without the first 2 and 1.
+            behind = moorOf("ps90000;pw10700;pn90700;s090;");
+            due(60 - 20, behind.takes(0, 1));
+            due(30 - 5, behind.takes(0, 2));
             due(-87, moorOf("pp00000;pn93500;ps90000;").takes(1, 0));
         });
         test("WORST: the one who takes most from him, of several the least", () -> {
@@ -277,6 +293,10 @@ public final class ThoughtsTest {
             x = bare("pp00000;pp00000;pp00000;l0210;l1201;l0150;");
             due(2, x.leaves(0));
             due(2, x.leaves(1));
+            // The LOANS of those who stay are theirs: the first and the last, whose NETS are 0, have nothing more then.
+            x = bare("pp00000;pp00000;pp00000;l2005;l0205;");
+            due(0, x.leaves(0));
+            due(0, x.leaves(1));
             x = bare("pp00000;pp00000;pp00000;l2010;l1020;");
             due(0, x.leaves(0));
             due(2, x.leaves(1));
@@ -326,6 +346,8 @@ public final class ThoughtsTest {
             x.need(0, 9);
             due(1, x.help(0, 0));
             due(1, x.help(10, 0));
+            due(1, bare("pp00000;pp00001;pp03500;l2010;").help(0, 0));
+            due(11, bare("pp00000;pp00001;pp03500;l2011;").help(10, 0));
             x.need(0, 10);
             due(0, x.help(10, 0));
             x.need(0, 11);
@@ -393,6 +415,7 @@ public final class ThoughtsTest {
 
     private static void fewest() {
         due(0, moorOf(SIX).loans(1));
+        due(0, moorOf("pp00000;").loans(1));
         due(0, moorOf(SIX + "l0150;l1050;").loans(1));
         due(1, moorOf(SIX + "l0150;l1049;").loans(1));
         due(1, moorOf(SIX + "l0109;l1209;l2309;l3409;l4509;").loans(1));
@@ -518,7 +541,17 @@ public final class ThoughtsTest {
             due(0, moorOf(PAIR + "s000;").two(1, 0));
             due(0, moorOf("pp01400;ps51400;").two(0, 1));
         });
-        test("TWO: -9", () -> due(-9, moorOf("po81400;pc61600;").two(0, 1)));
+        test("TWO: -9", () -> {
+            due(-9, moorOf("po81400;pc61600;").two(0, 1));
+            // 3 STEPS apart and more, the COUPLE wants an even way, the PERSON an odd one: each STEP is another's.
+            due(-9, moorOf("pp01900;pc02200;").two(0, 1));
+            due(-9, moorOf("pp01900;pc02200;").two(1, 0));
+            due(-9, moorOf("pc03500;pp00900;").two(0, 1));
+            due(-9, moorOf("pw00800;pc01100;").two(0, 1));
+            due(-9, moorOf("pc01300;pw02200;").two(0, 1));
+            due(30, moorOf("pc23300;pp31400;s011;").two(0, 1));
+            due(33, moorOf("pc60700;pp71400;s116;").two(0, 1));
+        });
     }
 
     // ---- CROWD, RAISE
@@ -539,6 +572,7 @@ public final class ThoughtsTest {
             due(1, moorOf(SIX).crowd(2));
             due(1, moorOf("pp00000;pp03500;").crowd(2));
             due(45, moorOf("pp00000;pp00500;pp03000;pp01400;pp03500;pp02900;").crowd(2));
+            due(1, moorOf("pp00000;pp00500;pp03000;pp01400;pp03500;pp02900;").crowd(0));
             // A STEP lies between 0 and 5, 1 and 2, 3 and 4.
             due(5, moorOf("pp00000;pp00500;pp00400;pp03500;pp03400;pp00100;").crowd(2));
             due(12, moorOf("pp03000;pp00500;pp00400;pp03500;pp03400;pp00100;").crowd(2));
@@ -672,6 +706,13 @@ public final class ThoughtsTest {
             due(0b1111100000, rowOf(x, 11, 1).whatIs(0, 1));
             due(1023, rowOf(moorOf("pp00000;pp00000;s012;"), 6, 6).whatIs(0, 1));
             due(0, x.person(0, 1));
+            // Numbers that were cleared, or judged, are not in the ROW.
+            rowOf(x, 7, 7, 7, 7, 7);
+            due(1 << 0, rowOf(x, 6, 6).whatIs(0, 1));
+            rowOf(x, 7, 7, 7, 7, 7).judge(0);
+            x.row(8);
+            x.row(4);
+            due(1 << 1, x.whatIs(0, 1));
         });
         test("a ROW of numbers (0 .. 99; 12 at most)", () -> {
             AloneIsAQuantity x = new AloneIsAQuantity();
